@@ -28,7 +28,7 @@ public final class QuayRopes {
     private static final int[] MOST_TOLD = {8, 4, 4, 1, 4, 1, 1};
     private static final int[] FIELDS = {2, 2, 3, 6, 2, 1, 3};
     // Where a kind's numbers begin in a PORT: each kind has MOST_TOLD times FIELDS of them.
-    private static final int[] FIRST_NUMBER = {0, 16, 24, 36, 42, 50, 51};
+    private static final int[] NUMBERS_AT = {0, 16, 24, 36, 42, 50, 51};
     private static final int ALL_NUMBERS = 54;
     // Where a kind's limits begin in the two tables behind: each kind has FIELDS of them.
     private static final int[] FIRST_LIMIT = {0, 2, 4, 7, 13, 15, 16};
@@ -39,7 +39,6 @@ public final class QuayRopes {
     // A number that no field can be, however many digits follow.
     private static final int TOO_GREAT = 10000;
 
-    private static final int MOST_STONES = 8;
     private static final int MOST_GANGS = 4;
     private static final int MOST_TUGS = 6;
     private static final int MOST_LINES = 6;
@@ -314,7 +313,7 @@ public final class QuayRopes {
         if (!mayBeHome(home) || rings.count >= MOST_RINGS) {
             return NONE;
         }
-        if (!within(gang, 0, MOST_GANGS - 1) || !hasBit(home, gang)) {
+        if (!within(gang, 0, port.toldOf(GANG) - 1) || !hasBit(home, gang)) {
             return NONE;
         }
         rings.add(home, gang);
@@ -350,7 +349,7 @@ public final class QuayRopes {
     }
 
     public int visit(int size, int time) {
-        if (!port.stands() || berths.count >= MOST_VISITS || size < 0 || time < 0) {
+        if (!port.stands() || berths.count >= MOST_VISITS) {
             return NONE;
         }
         if (!within(size / 100, 10, 150) || !within(size % 100, 1, 40)) {
@@ -701,7 +700,7 @@ public final class QuayRopes {
                 return !hasStoneAt(number);
             }
             if (kind == DEEP && field == 1) {
-                return number > number(DEEP, toldOf(DEEP), 0);
+                return number > at(numbers, at(NUMBERS_AT, DEEP) + 3 * toldOf(DEEP));
             }
             return true;
         }
@@ -716,57 +715,54 @@ public final class QuayRopes {
         }
 
         void tell(int kind, int field, int number) {
-            put(numbers, at(FIRST_NUMBER, kind) + toldOf(kind) * at(FIELDS, kind) + field, number);
+            put(numbers, at(NUMBERS_AT, kind) + toldOf(kind) * at(FIELDS, kind) + field, number);
         }
 
         void endRow(int kind) {
             put(told, kind, toldOf(kind) + 1);
         }
 
-        private int number(int kind, int row, int field) {
-            return at(numbers, at(FIRST_NUMBER, kind) + row * at(FIELDS, kind) + field);
-        }
-
         int stonePlace(int stone) {
-            return number(STONE, stone, 0);
+            return at(numbers, at(NUMBERS_AT, STONE) + 2 * stone);
         }
 
         int stoneBears(int stone) {
-            return number(STONE, stone, 1);
+            return at(numbers, at(NUMBERS_AT, STONE) + 2 * stone + 1);
         }
 
         int ropeBears(int rope) {
-            return number(ROPE, rope, 0);
+            return at(numbers, at(NUMBERS_AT, ROPE) + 2 * rope);
         }
 
         int ropePulls(int rope) {
-            return number(ROPE, rope, 1);
+            return at(numbers, at(NUMBERS_AT, ROPE) + 2 * rope + 1);
         }
 
         int water(int hour) {
-            return number(TIDE, 0, Math.floorMod(hour, 12) / 2);
+            return at(numbers, at(NUMBERS_AT, TIDE) + Math.floorMod(hour, 12) / 2);
         }
 
         int men(int gang) {
-            return number(GANG, gang, 0);
+            return at(numbers, at(NUMBERS_AT, GANG) + 2 * gang);
         }
 
         int sleep(int gang) {
-            return number(GANG, gang, 1);
+            return at(numbers, at(NUMBERS_AT, GANG) + 2 * gang + 1);
         }
 
         int tugs() {
-            return number(TUGS, 0, 0);
+            return at(numbers, at(NUMBERS_AT, TUGS));
         }
 
         int wage(int which) {
-            return number(PAY, 0, which);
+            return at(numbers, at(NUMBERS_AT, PAY) + which);
         }
 
         int depthAt(int place) {
             for (int i = toldOf(DEEP) - 1; i >= 0; i--) {
-                if (within(place, number(DEEP, i, 0), number(DEEP, i, 1))) {
-                    return number(DEEP, i, 2);
+                int from = at(NUMBERS_AT, DEEP) + 3 * i;
+                if (within(place, at(numbers, from), at(numbers, from + 1))) {
+                    return at(numbers, from + 2);
                 }
             }
             return 0;
@@ -1078,10 +1074,9 @@ public final class QuayRopes {
         /** Whether there is a BEST way; ways are tried by the first LINE's STONE, then the next one's. */
         boolean layBest(Mooring mooring, Port port, Ship ship, int wind, int stream) {
             bestLoad = ABOVE_ALL;
-            int stones = Math.min(port.toldOf(STONE), MOST_STONES);
             int ways = 1;
             for (int i = 0; i < mooring.count; i++) {
-                ways *= stones;
+                ways *= port.toldOf(STONE);
             }
             // No way is better than one with no load at all.
             for (int way = 0; way < ways && bestLoad > 0; way++) {

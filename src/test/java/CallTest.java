@@ -214,5 +214,19 @@ public final class CallTest {
         x.call(999, 1, 2000);
         // from 1699 to 1899: 101 minutes of the second day's 360
         Due.is("21: out of the night", x.pay(0, 0), 5 + 10);
+        // 999, 1699, 2399, 3099 and 3799: 1699 is 259 of the second day, 3099 is 219 of the third
+        x = Due.port(SHORE + "gang 5 600; pay 0 0 5;");
+        for (int i = 0; i < 5; i++) x.call(999, 1, 1000);
+        Due.is("21: in three days", x.pay(0, 0), 10 + 10);
+        int[][] want = {{140, 0}, {141, 0}, {142, 5}, {200, 5}, {201, 5}, {202, 10}, {240, 10}, {241, 10}, {242, 10}};
+        for (int[] w : want) Due.is("21: SLEEP " + w[0], atNight(w[0]), w[1]);
+    }
+
+    /** C for the second of two CALLS, which begins at 1199 and the SLEEP, and lasts 100. */
+    private static int atNight(int sleep) {
+        QuayRopes x = Due.port(SHORE + "gang 5 " + sleep + "; pay 0 0 5;");
+        x.call(999, 1, 2000);
+        x.call(999, 1, 1000);
+        return x.pay(0, 0);
     }
 }

@@ -117,10 +117,14 @@ public final class RestTest {
         rests("ahead", x, in(0, 6, -6), 0, 6, 0, 0);
         rests("ahead, nothing pulls back", x, in(0, 0, 6), 0, 0, 6, 0);
         rests("ahead, as far as can be", x, in(0, 0, -30), -20, 0, -10, 0);
+        for (int u = 0; u <= 20; u++) rests("ahead", x, in(0, 0, -u), -u, 0, 0, 0);
         x.ship(50, 0);
         x.line(0, 0, 1, 0, 0);
         rests("behind", x, in(0, 0, 6), 6, 0, 0, 0);
         rests("behind, nothing pulls back", x, in(0, 0, -6), 0, 0, -6, 0);
+        rests("behind, as far as can be", x, in(0, 0, 30), 20, 0, 10, 0);
+        rests("behind, as far as can be both ways", x, in(0, 999, 99), 20, 20, 59, 959);
+        for (int u = 0; u <= 20; u++) rests("behind", x, in(0, 0, u), u, 0, 0, 0);
         x.ship(50, 0);
         x.line(0, 0, 0, 100, 0);
         rests("ahead with K 2, like sums: the least |u|", x, in(0, 0, -1), 0, 0, -1, 0);
@@ -201,10 +205,10 @@ public final class RestTest {
 
     private static void goes(String what, QuayRopes x, int[] weather, int holds, int... want) {
         String call = what + ": WIND " + weather[1];
+        Due.is("14: " + call, x.holds(weather[0], weather[1], weather[2]), holds);
         Due.is("13: " + call, x.goes(weather[0], weather[1], weather[2], NONE), want.length);
         for (int k = 0; k < want.length; k++) Due.is("13: " + call + ", the " + k, x.goes(weather[0], weather[1], weather[2], k), want[k]);
         Due.is("13: " + call + ", no more", x.goes(weather[0], weather[1], weather[2], want.length), NONE);
-        Due.is("14: " + call, x.holds(weather[0], weather[1], weather[2]), holds);
     }
 
     private static QuayRopes oneBreast(String text, int kind) {
@@ -244,6 +248,17 @@ public final class RestTest {
         x.line(0, 0, 1, 0, 0);
         // 9 is 3 each, 6 to the second STONE; the one that holds has 9 then
         goes("the second STONE", x, in(0, 9, 0), 2, 11);
+        x = Due.port("stone 80 4; stone 50 7; rope 999 1;");
+        x.ship(50, 0);
+        x.line(0, 0, 1, 0, 0);
+        x.line(0, 30, 0, 0, 0);
+        // 9 each: over by 5 and by 2; then 18 to the one that is left
+        goes("of two STONES that by most", x, in(0, 18, 0), 0, 10, 11);
+        x = Due.port("stone 80 5; stone 50 5; rope 999 1;");
+        x.ship(50, 0);
+        x.line(0, 0, 1, 0, 0);
+        x.line(0, 30, 0, 0, 0);
+        goes("of like STONES the least", x, in(0, 18, 0), 0, 10, 11);
     }
 
     private static void goesOneBehindTheOther() {
@@ -288,6 +303,13 @@ public final class RestTest {
         // 11 is no nearer to 12 than to 10, so that both pull 5
         Due.is("15: R 5 and 6", x.held(0, 0), 11);
         for (int[] c : new int[][] {{-1, 0}, {100, 0}, {0, -100}, {0, 100}, {MIN, MIN}, {MAX, MAX}}) Due.is("15: held that can't be", x.held(c[0], c[1]), NONE);
+        x = Due.port("stone 50 999; rope 999 20; rope 999 16;");
+        x.ship(50, 0);
+        x.line(0, 0, 0, 0, 0);
+        x.line(0, 0, 0, 100, 0);
+        x.line(0, 0, 0, 100, 1);
+        // at v 19 they pull 972, at 20 it is 1024, more than the STONE bears: 998 lies as near to both
+        Due.is("15: but for the last", x.held(0, 0), 998);
         // K 20 pulls 0 up to WIND 10, and 20 from 11 on
         Due.is("15: K 20", oneBreast("stone 50 999; rope 19 20;", 0).held(0, 0), 10);
     }
@@ -334,6 +356,11 @@ public final class RestTest {
         Due.is("17: in a STREAM", x.best(0, 0, -10, 1, NONE), 100);
         Due.is("17: in a STREAM", x.best(0, 0, -10, 1, 0), 0);
         Due.is("17: the LINES stay", x.of(0, 1), 0);
+        x = Due.port("stone 50 999; stone 80 999; rope 999 1; rope 9 1;");
+        x.ship(50, 0);
+        x.line(0, 0, 1, 0, 0);
+        Due.is("17: 0 by the second, 1 by the first", x.best(0, 1, 0, 1, NONE), 0);
+        Due.is("17: 0 by the second, 1 by the first", x.best(0, 1, 0, 1, 0), 1);
         x.ship(50, 0);
         x.line(0, 0, 0, 100, 0);
         Due.is("17: R 9", x.best(0, 0, -9, 1, NONE), 1000);
@@ -371,10 +398,28 @@ public final class RestTest {
         Due.is("17: of three", x.best(0, 0, -18, 3, 1), 0);
         Due.is("17: of three", x.best(0, 0, -18, 3, 2), 1);
         Due.is("17: four", x.best(0, 0, -18, 4, NONE), NONE);
+        x.line(0, 0, 0, 0, 0);
+        Due.is("17: four of four", x.best(0, 0, -18, 4, NONE), NONE);
+        Due.is("17: three of four", x.best(0, 0, -18, 3, NONE), 60);
+        x.letGo();
         // the SLACK and the hour in which it was made fast stay a LINE's own: in hour 2 the first is slack by 5
         Due.is("17: in hour 2", x.best(2, 0, -12, 1, NONE), 120);
         Due.is("17: in hour 2, of two", x.best(2, 0, -12, 2, NONE), 60);
         x.letGo();
         Due.is("17: fewer LINES", x.best(0, 0, -18, 3, NONE), NONE);
+        // of eight STONES all but the last bear 1
+        StringBuilder text = new StringBuilder("rope 100 1;");
+        for (int i = 0; i < 8; i++) text.append("stone ").append(100 + i).append(i < 7 ? " 1;" : " 99;");
+        x = Due.port(text.toString());
+        x.ship(50, 0);
+        for (int i = 0; i < 3; i++) x.line(0, 0, 0, 0, 0);
+        Due.is("17: of eight STONES", x.best(0, 0, -9, 1, 0), 7);
+        Due.is("17: of eight STONES", x.best(0, 0, -9, 3, NONE), 30);
+        for (int k = 0; k < 3; k++) Due.is("17: of eight STONES", x.best(0, 0, -9, 3, k), 7);
+        x = Due.port("stone 50 999; rope 20 1;");
+        x.ship(50, 0);
+        for (int i = 0; i < 3; i++) x.line(0, 0, 0, 0, 0);
+        Due.is("17: one STONE alone", x.best(0, 15, 0, 3, NONE), 250);
+        for (int k = 0; k < 3; k++) Due.is("17: one STONE alone", x.best(0, 15, 0, 3, k), 0);
     }
 }

@@ -167,6 +167,22 @@ public final class StormTest {
         x.line(0, 0, 0, 0, 0);
         x.weather(0, 2, 0);
         blame("2 by 999, cut", x, 0, 2, 0, 0);
+        // laid in hour 0 with 9 more WATER than in hour 2: 29 times K as far off as can be
+        int[][] edges = {{579, 20, 999, 1001, 1}, {580, 20, 999, 1000, 2}, {499, 10, 250, 501, 2}, {500, 10, 250, 500, 0}};
+        for (int[] e : edges) {
+            x = Due.port("stone 50 999; rope " + e[0] + " " + e[1] + "; tide 9 0 0 0 0 0;");
+            x.ship(50, 9);
+            x.line(0, 0, 0, 0, 0);
+            x.weather(2, e[2], 0);
+            blame("R " + e[0], x, 0, e[3], 0, e[4]);
+        }
+        // by the STREAM alone: ahead of her 6 of it is 6 of PULL
+        x = Due.port("stone 90 999; rope 12 1;");
+        x.ship(50, 0);
+        x.line(0, 0, 0, 0, 0);
+        x.weather(0, 0, 6);
+        x.weather(0, 0, -6);
+        blame("a STREAM", x, 0, 500, 1, 0);
     }
 
     private static void noBlame() {

@@ -102,6 +102,11 @@ public final class VisitTest {
         x = Due.port(SHORE);
         x.visit(2001, 1);
         fits(x, 0, 0, 0, 3);
+        // one place alone is too shallow: 50
+        x = Due.port(SHORE + "deep 0 200 10; deep 50 51 3; deep 51 60 10;");
+        x.visit(2009, 1);
+        int[][] want = {{29, 0}, {30, 3}, {40, 3}, {48, 3}, {49, 3}, {50, 3}, {51, 0}};
+        for (int[] w : want) fits(x, 0, w[0], 0, w[1]);
     }
 
     private static void fitsByVisits() {
@@ -194,6 +199,13 @@ public final class VisitTest {
         x.visit(2010, 1);
         Due.is("31: lay(2, 150, 7)", x.lay(2, 150, 7), true);
         Due.is("31: one hour", x.about(2, 6), 0);
+        x = Due.port(SHORE + "deep 0 200 10; tide 9 0 1 9 9 2;");
+        x.visit(2011, 6);
+        Due.is("31: lay(0, 0, 1)", x.lay(0, 0, 1), true);
+        // 9 in hours 0 and 1, then 0 for two hours, then 1 for two
+        Due.is("31: two hours", x.about(0, 6), 2);
+        Due.is("31: lay(0, 0, 6)", x.lay(0, 0, 6), true);
+        Due.is("31: none", x.about(0, 6), 0);
     }
 
     private static void firstFit() {
@@ -226,6 +238,28 @@ public final class VisitTest {
         Due.is("32: too late", x.firstFit(3), NONE);
         x.lift(2);
         Due.is("32: in time", x.firstFit(3), 195000);
+        x.lift(1);
+        Due.is("32: lay", x.lay(1, 0, 151), true);
+        Due.is("32: in the last hour", x.firstFit(3), 199000);
+        Due.is("32: lay", x.lay(1, 0, 152), true);
+        Due.is("32: no more", x.firstFit(3), NONE);
+        // the last place along it counts
+        x = Due.port(SHORE + "deep 0 200 10; deep 50 200 5; deep 120 200 10;");
+        x.visit(5009, 1);
+        Due.is("32: not at 0", x.firstFit(0), 120);
+        x.visit(4909, 1);
+        Due.is("32: at 0", x.firstFit(1), 0);
+        x = Due.port(SHORE + "deep 190 200 10;");
+        x.visit(1009, 1);
+        Due.is("32: the last place", x.firstFit(0), 190);
+        // where there is water enough without any DEPTH, it must be on the quay all the same
+        x = Due.port(SHORE + "tide 9 9 9 9 9 9;");
+        x.visit(15001, 5);
+        x.visit(4101, 5);
+        Due.is("32: lay(0, 0, 0)", x.lay(0, 0, 0), true);
+        Due.is("32: 41 are too long beside 150", x.firstFit(1), 5000);
+        x.visit(4001, 5);
+        Due.is("32: 40 are not", x.firstFit(2), 160);
     }
 
     private static void planned() {
