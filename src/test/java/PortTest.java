@@ -13,7 +13,6 @@ public final class PortTest {
         tooMany();
         tooEarly();
         ports();
-        fullPort();
         counted();
         Due.end();
     }
@@ -236,46 +235,6 @@ public final class PortTest {
             x.line(0, 0, 0, 0, 0);
             Due.is("5: no tide", x.of(0, 5), 5);
         }
-    }
-
-    /** With all that a PORT can have, each number is its own. */
-    private static void fullPort() {
-        StringBuilder text = new StringBuilder("pay 97 98 99;tugs 6;tide 1 2 3 4 5 6;");
-        for (int i = 0; i < 8; i++) text.append("stone ").append(i * 20 + 15).append(' ').append(i + 1).append(';');
-        for (int i = 0; i < 4; i++) {
-            text.append("rope ").append(980 + i).append(' ').append(17 + i).append(';');
-            text.append("deep ").append(40 * i).append(' ').append(40 * i + 40).append(' ').append(31 + i).append(';');
-            text.append("gang ").append(11 + i).append(' ').append(101 + i).append(';');
-        }
-        QuayRopes x = Due.port(text.toString());
-        for (int i = 0; i < 4; i++) Due.is("5: DEPTH", x.depth(40 * i + 5), 31 + i);
-        x.ship(0, 0);
-        for (int i = 0; i < 12; i++) {
-            x.ship(0, 0);
-            x.line(i, 15, 0, 0, 0);
-            Due.is("5: WATER in hour " + i, x.of(0, 5), 5 + i / 2 + 1);
-        }
-        for (int i = 0; i < 8; i++) {
-            // a breast of K 17 to each STONE, in a WIND that stretches it by 1
-            x.ship(i * 20 + 15, 0);
-            x.line(0, 0, i, 0, 0);
-            Due.is("5: STONE " + i, x.goes(0, 17, 0, 0), 10 + i);
-            Due.is("5: place", x.of(0, 5), 6);
-        }
-        Due.is("5: no more than it bears", x.held(0, 0), 8);
-        for (int i = 0; i < 4; i++) {
-            x.ship(15, 0);
-            x.line(0, 0, 0, i * 100, 0);
-            Due.is("5: K of ROPE " + i, x.pull(0, 17 + i, 0, 0), 17 + i);
-            x.weather(0, 999, 0);
-            Due.is("5: R of ROPE " + i, x.blame(0, 0), 20000 * (17 + i) / (980 + i));
-        }
-        for (int i = 0; i < 4; i++) Due.is("18: call", x.call(0, 11 + i, 106), i);
-        Due.is("5: men", x.least(), 4 + 32 + 192);
-        Due.is("5: TUGS", x.met(4 + 32 + 192, 2), 10 + 20 + 30);
-        Due.is("5: pay", x.pay(4 + 32 + 192, 3), 97 + 2 * 98 + 99);
-        Due.is("18: call", x.call(0, 14, 10), 4);
-        Due.is("5: SLEEP", x.met(4 + 32 + 192 + 768, 14), 40 + 104);
     }
 
     /** Something of everything that a PORT loses. */
